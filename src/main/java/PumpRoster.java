@@ -128,12 +128,12 @@ public final class PumpRoster {
         int houseAtA = changed.roster[a];
         changed.roster[a] = changed.roster[b];
         changed.roster[b] = houseAtA;
-        return changed.roster[changed.turn];
+        return changed.houseAt(changed.turn);
     }
 
     public int roster(int pump, int index) throws IndexOutOfBoundsException {
         requirePlace(pump, index);
-        return village.pumps[pump].roster[index];
+        return village.pumps[pump].houseAt(index);
     }
 
     public int ahead(int pump, int house) throws IndexOutOfBoundsException {
@@ -365,6 +365,10 @@ public final class PumpRoster {
             return NONE;
         }
 
+        int houseAt(int place) {
+            return place >= 0 && place < rosterSize ? roster[place] : NONE;
+        }
+
         void append(int house) {
             if (rosterSize < MOST_HOUSES) {
                 roster[rosterSize] = house;
@@ -372,9 +376,8 @@ public final class PumpRoster {
             }
         }
 
-        void strikeOff(int house) {
-            int gap = placeOf(house);
-            if (gap == NONE) {
+        void strikeOff(int gap) {
+            if (gap < 0 || gap >= rosterSize) {
                 return;
             }
             for (int place = gap + 1; place < rosterSize; place++) {
@@ -487,16 +490,12 @@ public final class PumpRoster {
             if (paid < eggs && payer.marks < MOST_MARKS) {
                 payer.marks++;
                 if (payer.marks == MOST_MARKS) {
-                    strikeOffAllRosters(payer);
+                    for (int i = 0; i < pumpCount; i++) {
+                        pumps[i].strikeOff(pumps[i].placeOf(payer.number));
+                    }
                 }
             }
             return paid;
-        }
-
-        private void strikeOffAllRosters(House house) {
-            for (int i = 0; i < pumpCount; i++) {
-                pumps[i].strikeOff(house.number);
-            }
         }
 
         /** The seven steps of each day, in their order; answers the buckets that were drawn. */
@@ -524,46 +523,40 @@ public final class PumpRoster {
 
         private void passKeys() {
             for (int i = 0; i < pumpCount; i++) {
-                passKey(pumps[i]);
+                Pump pump = pumps[i];
+                pump.open = false;
+                pump.brokeToday = false;
+                // A fine for the key may strike houses off this very roster, so the turn moves ahead of it.
+                int duty = takeTurn(pump);
+                if (isHouse(duty) && handOnKey(pump, duty)) {
+                    pump.keyHolder = duty;
+                    pump.open = true;
+                    pump.daysOpen++;
+                    houses[duty].duties++;
+                }
             }
         }
 
-        private void passKey(Pump pump) {
-            pump.open = false;
-            pump.brokeToday = false;
-            int place = placeOfDuty(pump);
-            if (place == NONE) {
-                return;
-            }
-            int duty = pump.roster[place];
-            // A fine below may strike houses off this very roster, so the turn has to move first.
-            pump.turn = pump.placeBehind(place);
-            if (pump.keyHolder == duty || keyIsFree(pump.keyHolder)) {
-                pump.keyHolder = duty;
-                pump.open = true;
-                pump.daysOpen++;
-                houses[duty].duties++;
-            }
-        }
-
-        private int placeOfDuty(Pump pump) {
+        /** Moves the turn behind the house with the duty and answers this house, or that there is none. */
+        private int takeTurn(Pump pump) {
             int place = pump.turn;
             for (int i = 0; i < pump.rosterSize; i++) {
-                int house = pump.roster[place];
-                if (isHouse(house) && houses[house].isThere()) {
-                    return place;
-                }
+                int house = pump.houseAt(place);
                 place = pump.placeBehind(place);
+                if (isHouse(house) && houses[house].isThere()) {
+                    pump.turn = place;
+                    return house;
+                }
             }
             return NONE;
         }
 
-        /** Whether the house with the duty can get the key; a holder that does not hand it on is fined. */
-        private boolean keyIsFree(int keyHolder) {
-            if (!isHouse(keyHolder)) {
+        /** Whether the house with the duty has the key then; a holder that does not hand it on pays for it. */
+        private boolean handOnKey(Pump pump, int duty) {
+            if (pump.keyHolder == duty || !isHouse(pump.keyHolder)) {
                 return true;
             }
-            House holder = houses[keyHolder];
+            House holder = houses[pump.keyHolder];
             if (holder.isThere()) {
                 holder.keysToHandOn++;
                 if (!holder.forgetsThisKey()) {

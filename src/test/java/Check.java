@@ -17,6 +17,13 @@ final class Check {
         }
     }
 
+    static void dueText(String call, String got, String want) {
+        if (!got.equals(want)) {
+            wrong++;
+            System.out.println(call + " answered " + got + ", due is " + want);
+        }
+    }
+
     static void dueDouble(String call, double got, double want) {
         if (got != want) {
             wrong++;

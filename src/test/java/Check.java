@@ -6,28 +6,31 @@ final class Check {
     }
 
     private static int wrong = 0;
+    private static int sentences = 0;
+    private static String sentence = "";
 
     private Check() {
     }
 
+    /** What follows tests this sentence of the document, which stands ahead of each answer that is not due. */
+    static void sentence(String words) {
+        sentences++;
+        sentence = "\"" + words + "\": ";
+    }
+
     static void due(String call, long got, long want) {
+        dueText(call, "" + got, "" + want);
+    }
+
+    static void dueDouble(String call, double got, double want) {
         if (got != want) {
-            wrong++;
-            System.out.println(call + " answered " + got + ", due is " + want);
+            tell(call + " answered " + got + ", due is " + want);
         }
     }
 
     static void dueText(String call, String got, String want) {
         if (!got.equals(want)) {
-            wrong++;
-            System.out.println(call + " answered " + got + ", due is " + want);
-        }
-    }
-
-    static void dueDouble(String call, double got, double want) {
-        if (got != want) {
-            wrong++;
-            System.out.println(call + " answered " + got + ", due is " + want);
+            tell(call + " answered " + got + ", due is " + want);
         }
     }
 
@@ -41,14 +44,20 @@ final class Check {
             got = e.getClass().getSimpleName();
         }
         if (!got.equals(want.getSimpleName())) {
-            wrong++;
-            System.out.println(call + " throws " + got + ", due is " + want.getSimpleName());
+            tell(call + " throws " + got + ", due is " + want.getSimpleName());
         }
         due("digest() after " + call + " threw", x.digest(), before);
     }
 
+    private static void tell(String what) {
+        wrong++;
+        System.out.println(sentence + what);
+    }
+
     static void finish(String test) {
-        System.out.println(test + ": " + (wrong == 0 ? "all answers are as due" : wrong + " answers are not as due"));
+        String told = sentences == 0 ? "" : " (" + sentences + " sentences)";
+        System.out.println(test + told + ": "
+                + (wrong == 0 ? "all answers are as due" : wrong + " answers are not as due"));
         if (wrong != 0) {
             System.exit(1);
         }

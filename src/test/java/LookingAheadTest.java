@@ -12,28 +12,9 @@ public final class LookingAheadTest {
         Check.finish("LookingAheadTest");
     }
 
-    /** A village in which keys are forgotten, handles break, and marks and thirst come. */
-    private static PumpRoster busyVillage() {
-        PumpRoster x = new PumpRoster();
-        x.addHouse(9, 1, 2);
-        x.addHouse(5, 0, 1);
-        x.addHouse(7, 3, 3);
-        x.addPump(150, 12);
-        x.addPump(40, 7);
-        x.enrol(0, 0);
-        x.enrol(0, 1);
-        x.enrol(0, 2);
-        x.enrol(1, 2);
-        x.enrol(1, 1);
-        x.prefer(2, 1);
-        x.pass(3);
-        x.leave(0, 4);
-        return x;
-    }
-
     private static void promise16Foresee() {
         for (int days = 1; days <= 100; days += 3) {
-            PumpRoster x = busyVillage();
+            PumpRoster x = Villages.busy();
             long before = x.digest();
             int thirstBefore = x.count(7);
             int[] foreseen = new int[4];
@@ -76,7 +57,7 @@ public final class LookingAheadTest {
         x.prefer(0, 2);
         Check.due("all the same: the smallest number, also when it prefers another", x.advise(0, 1), 0);
         adviseAgainstTrying(x);
-        adviseAgainstTrying(busyVillage());
+        adviseAgainstTrying(Villages.busy());
         Check.dueThrow("advise(1, 1)", x, IndexOutOfBoundsException.class, () -> x.advise(1, 1));
         Check.dueThrow("advise(1, 0)", x, IndexOutOfBoundsException.class, () -> x.advise(1, 0));
         Check.dueThrow("advise(0, 0)", x, IllegalArgumentException.class, () -> x.advise(0, 0));
@@ -182,7 +163,13 @@ public final class LookingAheadTest {
     private static void promise20Digest() {
         PumpRoster x = new PumpRoster();
         Check.due("digest() of a new object", x.digest(), 577L * 31 * 31 * 31 * 31 * 31 * 31 * 31 * 31 * 31 * 31);
-        digestByHand(busyVillage());
+        digestByHand(Villages.busy());
+        for (int days = 1; days <= 60; days += 3) {
+            digestByHand(fullVillage(days));
+        }
+    }
+
+    private static PumpRoster fullVillage(int days) {
         PumpRoster full = new PumpRoster();
         for (int i = 0; i < 10; i++) {
             full.addHouse(i, i, 9);
@@ -193,10 +180,8 @@ public final class LookingAheadTest {
                 full.enrol(i, house);
             }
         }
-        for (int i = 0; i < 20; i++) {
-            full.pass(3);
-            digestByHand(full);
-        }
+        full.pass(days);
+        return full;
     }
 
     private static void digestByHand(PumpRoster x) {

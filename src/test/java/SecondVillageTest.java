@@ -2,7 +2,8 @@
 public final class SecondVillageTest {
 
     private static final int RUNS = 1000;
-    private static final int CALLS = 512;
+    // With houses and pumps to begin with, and the digests, no object comes to more than 512 calls: later ones are free.
+    private static final int CALLS = 440;
     private static final int[] WILD = {Integer.MIN_VALUE, -1, 0, 1, 2, 3, 9, 10, 11, 30, 31, 50, 51, 100, 101, 200, 201,
         Integer.MAX_VALUE};
     private static final String[] NAMES = {"addHouse", "addPump", "lodge", "prefer", "leave", "fine", "enrol", "change",
@@ -23,7 +24,7 @@ public final class SecondVillageTest {
             PumpRoster x = new PumpRoster();
             SecondVillage y = new SecondVillage();
             settle(run, x, y);
-            for (int n = 0; n < CALLS - 20; n++) {
+            for (int n = 0; n < CALLS; n++) {
                 compare(run, x, y, OFTEN[below(OFTEN.length)], n);
             }
             seenBroken += y.count(9);

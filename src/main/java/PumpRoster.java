@@ -267,7 +267,7 @@ public final class PumpRoster {
     }
 
     private void requirePump(int pump) {
-        if (pump < 0 || pump >= village.pumpCount) {
+        if (!village.isPump(pump)) {
             throw new IndexOutOfBoundsException("no such pump");
         }
     }
@@ -482,6 +482,10 @@ public final class PumpRoster {
             return house >= 0 && house < houseCount;
         }
 
+        boolean isPump(int pump) {
+            return pump >= 0 && pump < pumpCount;
+        }
+
         int charge(House payer, int eggs) {
             payer.finesTold += eggs;
             int paid = Math.min(eggs, payer.eggs);
@@ -579,7 +583,7 @@ public final class PumpRoster {
             int need = house.dailyNeed();
             int number = house.firstPump;
             for (int i = 0; i < pumpCount; i++) {
-                if (number >= pumpCount) {
+                if (!isPump(number)) {
                     number = 0;
                 }
                 need -= drawFrom(pumps[number], house, need);
